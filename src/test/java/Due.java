@@ -1,7 +1,7 @@
 /** Counts and prints the answers that are not the ones that are due. */
 final class Due {
     interface Call {
-        long get();
+        Object get();
     }
 
     private static int wrong = 0;
