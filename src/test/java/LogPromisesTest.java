@@ -9,6 +9,7 @@ public final class LogPromisesTest {
         wrongCommuting();
         carriedThroughClassNames();
         carriedThroughMemberNames();
+        otherMembersStay();
         carriedThroughMoves();
         namesThatAreNew();
         sameResultIsAsked();
@@ -195,6 +196,23 @@ public final class LogPromisesTest {
         Due.same("P26 a renamed and a moved member", x.exchange(0), true);
         step("P26", x, 0, 7, "AaC-");
         step("P26", x, 1, 6, "Ca-x");
+    }
+
+    private static void otherMembersStay() {
+        String[] uses = {"AbCx", "CxAb", "CxCx", "AbAb"};
+        for (String use : uses) {
+            RefactoringReplay x = small();
+            x.addMember(0, 'C', 'x');
+            x.clearLog();
+            x.renameMember(0, 'A', 'a', 'x');
+            x.addUse(0, use.charAt(0), use.charAt(1), use.charAt(2), use.charAt(3));
+            Due.same("P26 the same class or the same name is not the member", x.exchange(0), true);
+            step("P26 back", x, 0, 8, use);
+            step("P26 back", x, 1, 6, "Aa-x");
+            Due.same("P26 nor forward", x.exchange(0), true);
+            step("P26 forward", x, 0, 6, "Aa-x");
+            step("P26 forward", x, 1, 8, use);
+        }
     }
 
     private static void carriedThroughMoves() {

@@ -475,5 +475,13 @@ public final class ProgramPromisesTest {
         x.addUse(1, 'A', 'a', 'A', 'b');
         x.removeUse(1, 'A', 'b', 'A', 'a');
         Due.same("P19 the same uses", x.areSame(), true);
+        x.addUse(1, 'A', 'b', 'A', 'b');
+        Due.same("P19 more uses in version 1", x.areSame(), false);
+        x.removeUse(1, 'A', 'b', 'A', 'b');
+        x.addMember(1, 'A', 'c');
+        Due.same("P19 more members in version 1", x.areSame(), false);
+        x.removeMember(1, 'A', 'c');
+        x.addClass(1, 'C');
+        Due.same("P19 more classes in version 1", x.areSame(), false);
     }
 }

@@ -6,8 +6,11 @@ public final class ReplayPromisesTest {
         matchTakesTheClosest();
         matchOfMembers();
         matchOfLoneMembers();
+        matchedMembersStayMatched();
         wrongMatching();
         replayFollowsMatches();
+        replayUsesTheNamesThere();
+        whatIsNewHasNoOldMatch();
         replayWithoutMatch();
         replayFaults();
         countsAsMade();
@@ -119,6 +122,13 @@ public final class ReplayPromisesTest {
         Due.same("P29 and two for the second", w.matchOfMember('B', 'x'), 0);
     }
 
+    private static void matchedMembersStayMatched() {
+        Due.same("P29 its class counts most", both("A:x", "A:x C:x D:x").matchOfMember('A', 'x'), 256 * 'A' + 'x');
+        Due.same("P29 what is matched stays", both("A:x", "A:x C:x").matchOfMember('A', 'x'), 256 * 'A' + 'x');
+        RefactoringReplay x = both("A:x B:x", "A:x C:x B");
+        Due.same("P29 what is matched is not left", x.matchOfMember('B', 'x'), 256 * 'C' + 'x');
+    }
+
     private static void wrongMatching() {
         RefactoringReplay x = both("A:a", "A:a");
         for (int wrong : new int[] {0, -1, 'a', 'A' - 1, 'Z' + 1, Integer.MAX_VALUE, Integer.MIN_VALUE}) {
@@ -152,6 +162,44 @@ public final class ReplayPromisesTest {
         Due.same("P30 no superclass", x.superOf(1, 'Z'), 0);
         Due.same("P30 the log stays", x.log(), 8);
         Due.same("P30 version 0 stays", x.members(0, 'A'), 1 << 16);
+    }
+
+    private static void replayUsesTheNamesThere() {
+        RefactoringReplay x = both("A:ab B:cd", "X:ab Y:cd");
+        x.renameMember(0, 'A', 'a', 'q');
+        x.setSuper(0, 'A', 'B');
+        x.moveMember(0, 'A', 'b', 'B');
+        x.addUse(0, 'B', 'c', 'A', 'q');
+        x.addUse(0, 'A', 'q', 'B', 'b');
+        x.addUse(0, 'B', 'd', 'B', 'd');
+        x.removeUse(0, 'B', 'c', 'A', 'q');
+        Due.same("P30 the rename is not selected", x.replay(0b0111110, false), 5);
+        results("P32", x, -1, 0, 0, 0, 0, 0, -1);
+        Due.same("P30 the superclass", x.superOf(1, 'X'), 'Y');
+        Due.same("P30 the moved member", x.members(1, 'Y'), 14);
+        Due.same("P30 the used one", x.hasUse(1, 'Y', 'c', 'X', 'a'), true);
+        Due.same("P30 the one that uses", x.hasUse(1, 'X', 'a', 'Y', 'b'), true);
+        Due.same("P30 the use of itself", x.hasUse(1, 'Y', 'd', 'Y', 'd'), true);
+        x.setSuper(0, 'A', 0);
+        x.replay(0b11000000, false);
+        results("P32", x, -1, -1, -1, -1, -1, -1, 0, 0);
+        Due.same("P30 the use is removed", x.hasUse(1, 'Y', 'c', 'X', 'a'), false);
+        Due.same("P30 no superclass", x.superOf(1, 'X'), 0);
+    }
+
+    private static void whatIsNewHasNoOldMatch() {
+        RefactoringReplay x = both("A", "A");
+        x.removeClass(0, 'A');
+        x.addClass(0, 'C');
+        x.addMember(0, 'C', 'x');
+        Due.same("P30 C is not the A that was removed", x.replay(0b100, false), 0);
+        results("P32", x, -1, -1, 2);
+        RefactoringReplay y = both("A:a", "A:a");
+        y.removeMember(0, 'A', 'a');
+        y.addMember(0, 'A', 'c');
+        y.renameMember(0, 'A', 'c', 'd');
+        Due.same("P30 c is not the a that was removed", y.replay(0b100, false), 0);
+        results("P32", y, -1, -1, 2);
     }
 
     private static void replayWithoutMatch() {
