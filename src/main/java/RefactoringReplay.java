@@ -236,8 +236,7 @@ public final class RefactoringReplay {
             return -1;
         }
         matching.find(base, one);
-        int partner = matching.classTo[slot];
-        return partner < 0 ? 0 : one.classNames[partner];
+        return one.classNameAt(matching.classTo[slot]);
     }
 
     public int matchOfMember(int a, int m) throws IllegalArgumentException {
@@ -249,7 +248,7 @@ public final class RefactoringReplay {
         }
         matching.find(base, one);
         int partner = matching.memberTo[slot];
-        return partner < 0 ? 0 : 256 * one.ownerNameOf(partner) + one.memberNames[partner];
+        return 256 * one.ownerNameOf(partner) + one.memberNameAt(partner);
     }
 
     public int replay(int selection, boolean mend) throws IllegalArgumentException {
@@ -777,6 +776,15 @@ public final class RefactoringReplay {
             return 0;
         }
 
+        /** The name of the class in a slot, 0 if there is no such slot or nothing in it. */
+        int classNameAt(int slot) {
+            return slot < 0 || slot >= MAX_CLASSES ? 0 : classNames[slot];
+        }
+
+        int memberNameAt(int member) {
+            return member < 0 || member >= MAX_MEMBERS ? 0 : memberNames[member];
+        }
+
         int superNameOf(int slot) {
             int parent = slot < 0 || slot >= MAX_CLASSES ? NONE : supers[slot];
             return parent < 0 || parent >= MAX_CLASSES ? 0 : classNames[parent];
@@ -825,7 +833,7 @@ public final class RefactoringReplay {
             for (int slot = 0; slot < MAX_CLASSES; slot++) {
                 int slots = 0;
                 int parent = supers[slot];
-                for (int steps = 0; steps < MAX_CLASSES && parent >= 0; steps++) {
+                for (int steps = 0; steps < MAX_CLASSES && parent >= 0 && parent < MAX_CLASSES; steps++) {
                     slots |= 1 << parent;
                     parent = supers[parent];
                 }
@@ -1025,7 +1033,7 @@ public final class RefactoringReplay {
         private void joinMembersOfClasses(Program base, Program other) {
             for (int member = 0; member < MAX_MEMBERS; member++) {
                 int slot = base.owners[member];
-                int partner = slot < 0 ? NONE : classTo[slot];
+                int partner = slot < 0 || slot >= MAX_CLASSES ? NONE : classTo[slot];
                 if (partner >= 0) {
                     joinMembers(member, other.memberIn(partner, base.memberNames[member]));
                 }
@@ -1072,8 +1080,9 @@ public final class RefactoringReplay {
 
         void partClass(int slot) {
             if (slot >= 0 && slot < MAX_CLASSES) {
-                if (classTo[slot] >= 0) {
-                    classFrom[classTo[slot]] = NONE;
+                int partner = classTo[slot];
+                if (partner >= 0 && partner < MAX_CLASSES) {
+                    classFrom[partner] = NONE;
                 }
                 classTo[slot] = NONE;
             }
@@ -1081,8 +1090,9 @@ public final class RefactoringReplay {
 
         void partMember(int member) {
             if (member >= 0 && member < MAX_MEMBERS) {
-                if (memberTo[member] >= 0) {
-                    memberFrom[memberTo[member]] = NONE;
+                int partner = memberTo[member];
+                if (partner >= 0 && partner < MAX_MEMBERS) {
+                    memberFrom[partner] = NONE;
                 }
                 memberTo[member] = NONE;
             }
@@ -1150,21 +1160,20 @@ public final class RefactoringReplay {
         private boolean translateUser(Change change, Program target) {
             int partner = memberPartner(change.a, change.m);
             plan.a = target.ownerNameOf(partner);
-            plan.m = partner < 0 ? 0 : target.memberNames[partner];
+            plan.m = target.memberNameAt(partner);
             return partner >= 0;
         }
 
         private boolean translateUsed(Change change, Program target) {
             int partner = memberPartner(change.b, change.n);
             plan.b = target.ownerNameOf(partner);
-            plan.n = partner < 0 ? 0 : target.memberNames[partner];
+            plan.n = target.memberNameAt(partner);
             return partner >= 0;
         }
 
         private int classNameOf(int name, Program target) {
             int slot = shadow.classAt(name);
-            int partner = slot < 0 ? NONE : pairs.classTo[slot];
-            return partner < 0 ? 0 : target.classNames[partner];
+            return slot < 0 ? 0 : target.classNameAt(pairs.classTo[slot]);
         }
 
         private int memberPartner(int className, int name) {
