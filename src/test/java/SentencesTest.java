@@ -10,8 +10,8 @@ import java.util.regex.Pattern;
 import java.util.stream.Stream;
 
 /**
- * The document sentence by sentence: the files under src/test/sentences quote each sentence of the terms
- * and of the promises, with runs that would go otherwise if it was broken. A quote that does not stand
+ * The document sentence by sentence: the files under src/test/sentences quote each sentence of what it is,
+ * of the terms and of the promises, with runs that would go otherwise if it was broken. A quote that does not stand
  * just once in its section of DOC.md is a failure, and so is a sentence of DOC.md that has no quote.
  */
 public final class SentencesTest {
@@ -26,9 +26,7 @@ public final class SentencesTest {
 
     public static void main(String[] args) throws IOException {
         SentencesTest test = new SentencesTest();
-        for (String part : Files.readString(Path.of("../shared/DOC.md")).split("(?m)^## ")) {
-            test.sections.put(part.substring(0, part.indexOf('\n')).trim(), part);
-        }
+        test.sections.putAll(Document.sections());
         try (Stream<Path> files = Files.list(Path.of("src/test/sentences"))) {
             for (Path file : files.sorted().toList()) {
                 test.read(Files.readAllLines(file));
@@ -84,7 +82,7 @@ public final class SentencesTest {
     }
 
     private void checkAllQuoted(String name, String text) {
-        if (!name.equals("Terms") && !name.startsWith("Promise ")) {
+        if (!name.equals("What it is") && !name.equals("Terms") && !name.startsWith("Promise ")) {
             return;
         }
         List<int[]> places = quoted.getOrDefault(name, List.of());
@@ -102,9 +100,8 @@ public final class SentencesTest {
         }
     }
 
-    // The examples have a test of their own; parameters are told again where their exceptions stand.
+    // ExamplesTest reads the examples, FaceTest the headings of the calls.
     private static boolean isSentence(String line) {
-        return !line.startsWith("- `") && !line.matches("\\d+\\. .*") && !line.startsWith("Examples: ")
-                && !line.startsWith("Ahead of the calls");
+        return !line.matches("\\d+\\. .*") && !line.startsWith("Examples: ") && !line.startsWith("Ahead of the calls");
     }
 }
