@@ -13,6 +13,7 @@ public final class ModelTest {
     private final int classNames;
     private final int memberNames;
     private final int clearing;
+    private final boolean crowded;
     private final int[] seen;
     private final int[] filling;
 
@@ -20,8 +21,9 @@ public final class ModelTest {
         // Small seeds next to one another would all begin with much the same numbers.
         random = new Random(seed * 0x9E3779B97F4A7C15L);
         this.seen = seen;
-        classNames = 2 + random.nextInt(random.nextInt(4) == 0 ? 24 : 5);
-        memberNames = 2 + random.nextInt(random.nextInt(4) == 0 ? 24 : 5);
+        crowded = random.nextInt(4) == 0;
+        classNames = crowded ? 13 + random.nextInt(4) : 2 + random.nextInt(random.nextInt(4) == 0 ? 24 : 5);
+        memberNames = crowded ? 8 + random.nextInt(19) : 2 + random.nextInt(random.nextInt(4) == 0 ? 24 : 5);
         clearing = 5 + random.nextInt(60);
         filling = random.nextInt(2) == 0 ? new int[] {0, 3, 4, 8} : new int[] {0, 1, 2, 3, 4, 5, 6, 7, 8, 9};
     }
@@ -49,13 +51,59 @@ public final class ModelTest {
     }
 
     private String run() {
-        for (int call = 0; call < CALLS; call++) {
+        int filled = crowded ? crowd() : 0;
+        for (int call = filled; call < CALLS; call++) {
             String wrong = oneCall();
             if (wrong != null) {
                 return String.join("\n", told) + "\n" + wrong;
             }
         }
         return null;
+    }
+
+    /** Fills version 0, and version 1 with it, so far that the limits are near; returns the calls it took. */
+    private int crowd() {
+        int calls = 0;
+        int classes = 10 + random.nextInt(3);
+        while (model.versions[0].supers.size() < classes) {
+            calls += fillBy(new Model.Step(0, className(), 0, 0, 0));
+        }
+        for (int made = 0; made < 4; made++) {
+            calls += fillBy(new Model.Step(3, className(), 0, className(), 0));
+        }
+        int members = 37 + random.nextInt(4);
+        while (model.versions[0].members.size() < members) {
+            calls += fillBy(new Model.Step(4, className(), memberName(), 0, 0));
+        }
+        int uses = 57 + random.nextInt(4);
+        while (model.versions[0].uses.size() < uses) {
+            int user = memberOf(model.versions[0]);
+            int used = memberOf(model.versions[0]);
+            calls += fillBy(new Model.Step(8, user / 256, user % 256, used / 256, used % 256));
+        }
+        model.clearLog();
+        model.versions[1] = model.versions[0].copy();
+        real.clearLog();
+        real.copyVersion();
+        return calls + 2;
+    }
+
+    /** Makes the step if it has no fault; returns how many calls that took. */
+    private int fillBy(Model.Step step) {
+        if (model.change(0, step) != 0) {
+            return 0;
+        }
+        told.add("change 0 " + step);
+        if (make(0, step) != 0) {
+            throw new IllegalStateException(told + " the last one has a fault");
+        }
+        if (model.log.size() < 30) {
+            return 1;
+        }
+        told.add("clearLog()");
+        real.clearLog();
+        model.clearLog();
+        return 2;
     }
 
     private int className() {
